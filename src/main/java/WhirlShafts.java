@@ -226,7 +226,7 @@ public final class WhirlShafts {
         }
         trial.takeFrom(line);
         int mass = leastMassWithin(disc, rate, p, q);
-        int differs = mass > MOST_MASS ? Integer.MAX_VALUE : p - fenceByMass(disc, mass, rate, q);
+        int differs = mass > MOST_MASS ? MOST_P + 1 : p - fenceByMass(disc, mass, rate, q);
         if (mass > 1) {
             // FENCES never rise with MASS: the nearest one above the wish belongs to the next lighter MASS.
             int over = fenceByMass(disc, mass - 1, rate, q);
@@ -735,12 +735,10 @@ public final class WhirlShafts {
 
     /** KIND 1. */
     private static class Rim extends Disc {
-        @Override
         int weighs(int ofMass, int spin) {
-            return super.weighs(ofMass, spin) * 2;
+            return ofMass * 2;
         }
 
-        @Override
         int swings(int x) {
             note(20);
             return super.swings(x) ^ 3;
@@ -749,12 +747,10 @@ public final class WhirlShafts {
 
     /** KIND 2. */
     private static class Hub extends Disc {
-        @Override
         int weighs(int ofMass, int spin) {
-            return (super.weighs(ofMass, spin) + 1) / 2;
+            return (ofMass + 1) / 2;
         }
 
-        @Override
         int spins(int x) {
             note(30);
             return -super.spins(x);
@@ -763,18 +759,15 @@ public final class WhirlShafts {
 
     /** KIND 3. */
     private static final class Crown extends Rim {
-        @Override
         int weighs(int ofMass, int spin) {
             return super.weighs(ofMass, spin) + 3;
         }
 
-        @Override
         int tells(int x) {
             note(40);
             return super.tells(x + 1);
         }
 
-        @Override
         int spins(int x) {
             note(41);
             return super.spins(x) * 3;
@@ -783,12 +776,10 @@ public final class WhirlShafts {
 
     /** KIND 4. */
     private static final class Shell extends Hub {
-        @Override
         int weighs(int ofMass, int spin) {
             return Math.max(1, super.weighs(ofMass, spin) - spin / 2);
         }
 
-        @Override
         int swings(int x) {
             note(50);
             return super.swings(x) + spins(2);
@@ -970,9 +961,10 @@ public final class WhirlShafts {
     }
 
     /**
-     * TRANSFER rows of a line. Row r is kept in limbs of 30 bits, the lowest first, limb r holding nothing but the
-     * sign (0 or -1): by all that a line can be, p 10000 at most and q 16 at most, a row is less than 2 to the 28th
-     * times as wide as the one ahead of it, and what is summed for one limb stays below 2 to the 62nd.
+     * TRANSFER rows of a line. Row r is kept in limbs of 30 bits, the lowest first, limb r (of all but row 0, which
+     * is 1) holding nothing but the sign, 0 or -1: with p at most 10000 and q at most 16 the greatest multiplier is
+     * 10000 times 36 times 381 and the greatest square (16 times 99 times 36) squared, so row r is below 2 to the
+     * 28th to the r, and what is summed for one limb stays below 2 to the 62nd.
      */
     private static final class Rates {
         private static final int LIMB_BITS = 30;

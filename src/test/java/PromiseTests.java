@@ -72,6 +72,7 @@ public final class PromiseTests {
         taken();
         image();
         count();
+        eight();
         wide();
         System.out.println(wrong == 0 ? "all promises are kept" : wrong + " answers are not as due");
         if (wrong != 0) System.exit(1);
@@ -408,6 +409,20 @@ public final class PromiseTests {
         for (int i = 0; i < 3; i++) w.disc(3, 99, 1);
         due(w.gap(1, 0), 0);
         due(w.gap(1, 1), 0);
+        // RATES near 0, 40 and 80 by 90, the SHAFTS being weak.
+        WhirlShafts v = new WhirlShafts();
+        for (int i = 0; i < 3; i++) v.disc(0, 90, 1);
+        v.set(2, 1, 40);
+        v.set(2, 2, 80);
+        due(v.fence(0, 2), 0);
+        due(v.fence(1, 2), 0);
+        due(v.fence(2, 2), 1);
+        due(v.gap(2, 0), 1);
+        due(v.gap(2, 1), 1);
+        v.set(2, 0, 90);                      // FENCES by 2 are 0, 1, 2: like gaps, the first is told
+        for (int k = 0; k < 3; k++) due(v.fence(k, 2), k);
+        due(v.gap(2, 0), 0);
+        due(v.gap(2, 1), 1);
     }
 
     private static void trimTune() {
@@ -422,6 +437,18 @@ public final class PromiseTests {
         due(x.trim(0, 0, 9999, 1, 1), 9999 - 12);
         due(x.trim(0, 0, 0, 1, 0), 13);
         due(x.trim(0, 0, 0, 1, 1), 0);
+        due(x.trim(0, 0, 11, 1, 0), 1);
+        due(x.trim(0, 0, 7, 1, 0), 2);
+        due(x.trim(0, 0, 9, 1, 0), 1);        // 12 and 6 differ alike
+        x.set(2, 0, 99);
+        due(x.trim(0, 0, 1, 1, 0), 50);
+        due(x.trim(0, 0, 16, 16, 0), 94);     // 1584 by 94 is 16
+        x.set(2, 0, 98);
+        due(x.trim(0, 0, 0, 1, 0), 99);
+        due(x.trim(0, 0, 0, 1, 1), 0);
+        x.set(2, 0, 99);
+        due(x.trim(0, 0, 0, 1, 0), 50);       // never below 1: the least MASS that has 1
+        due(x.trim(0, 0, 0, 1, 1), 1);
         due(x.of(0, 0), 4);
         due(x.trim(1, 0, 3, 1, 0), BAD);
         due(x.trim(0, 1, 3, 1, 0), BAD);
@@ -479,6 +506,17 @@ public final class PromiseTests {
         due(y.change(0, 17), BAD);
         due(pair().change(1, 16), NOT);
         due(single().change(0, 16), NOT);
+        // By KIND alone: MASSES are like, but the HUB weighs a quarter of the RIM.
+        WhirlShafts k = new WhirlShafts();
+        k.disc(1, 8, 0);
+        k.disc(2, 8, 10);
+        k.set(2, 1, 80);
+        due(k.change(0, 16), 0);
+        WhirlShafts done = new WhirlShafts();
+        done.disc(2, 8, 0);
+        done.disc(1, 8, 10);
+        done.set(2, 1, 80);
+        due(done.change(0, 16), NOT);
         begin(21);
         WhirlShafts z = single();             // RATE 3: 2 times 2 is the first above it
         due(z.critical(0), 2);
@@ -569,6 +607,9 @@ public final class PromiseTests {
         due(x.order(-1, 0, 0), BAD);
         due(x.order(6, 0, 0), BAD);
         due(x.order(0, MIN, MAX), 1);
+        due(x.order(5, MIN, MAX), 2);
+        due(x.drop(), 2);
+        due(x.order(0, MIN, MAX), 1);
         for (int i = 2; i <= 8; i++) due(x.order(0, 0, i), i);
         due(x.order(0, 0, 9), FULL);
         due(x.order(6, 0, 9), BAD);
@@ -614,6 +655,14 @@ public final class PromiseTests {
         y.cut();
         due(y.tried(0, 1), y.fence(0, 1));
         due(y.does(), 0);
+        // What was 0 is done, too; the first ORDER counts.
+        WhirlShafts z = single();
+        z.order(4, 0, 5);
+        z.order(2, 0, 20);
+        due(z.tried(0, 1), 5);
+        due(z.does(), 2);
+        z.order(2, 0, 40);
+        due(z.tried(0, 1), 10);
     }
 
     private static void changes() {
@@ -660,6 +709,25 @@ public final class PromiseTests {
         due(x.of(1, 0), 30);
         due(x.redo(), STATE);
         // Those that leave none, where they are not refused.
+        x = pair();
+        for (int v = 11; v <= 30; v++) x.set(v % 2, 0, v);
+        x.set(0, 1, 50);
+        x.set(4, 0, 5);
+        x.undo();
+        x.set(1, 0, 31);
+        x.undo();
+        for (int left = 10; left >= 0; left--) due(x.undo(), left);
+        due(x.of(0, 0), 20);
+        due(x.of(1, 0), 19);
+        due(x.of(0, 1), 2);
+        due(x.redo(), 11);
+        due(x.of(1, 0), 21);
+        due(x.redo(), 10);
+        due(x.of(0, 0), 22);
+        for (int left = 9; left >= 0; left--) due(x.redo(), left);
+        due(x.of(0, 0), 30);
+        due(x.of(1, 0), 31);
+        due(x.of(0, 1), 50);
         x = pair();
         due(x.back(), STATE);
         x.image();
@@ -818,6 +886,7 @@ public final class PromiseTests {
         due(x.put(0, 1, 256), 1);
         due(x.get(0, 1), 0);
         due(x.film(2, 1, 2), 2);
+        due(x.get(2, 0), 0);
         due(x.get(2, 1), 198);
         due(x.film(3, 1, 2), BAD);
         due(x.film(-1, 1, 2), BAD);
@@ -830,6 +899,9 @@ public final class PromiseTests {
         due(x.count(8), 3);
         due(x.get(1, 0), WhirlShafts.VOID);
         due(x.put(1, 0, 0), -13);
+        WhirlShafts y = single();
+        due(y.film(0, 0, 16), 1);
+        due(y.get(0, 0), 48);
     }
 
     private static void copy() {
@@ -851,6 +923,8 @@ public final class PromiseTests {
         due(x.copy(0, 0, 1, -1, 1), -13);
         due(x.copy(0, MAX, 1, 0, MAX), -13);
         due(x.copy(0, 1, 1, 0, MAX), -13);
+        due(x.copy(0, 4, 1, 0, 3), -13);
+        due(x.copy(0, 0, 1, 1, 3), -13);
         due(x.copy(0, 7, 1, 0, 0), -13);
         due(x.copy(0, 6, 1, 3, 0), 0);
         due(x.copy(0, 3, 1, 0, 3), 3);
@@ -1023,6 +1097,36 @@ public final class PromiseTests {
         due(x.count(-1), BAD);
         x.redo();
         due(x.count(3), 6);
+    }
+
+    /** As many DISCS as there can be: like ones by like SHAFTS, RATES 4 sin(pi k / 16) squared times STIFF by MASS. */
+    private static void eight() {
+        begin(13);
+        WhirlShafts x = new WhirlShafts();
+        for (int i = 0; i < 8; i++) x.disc(0, 1, 10);
+        due(x.top(), 41);
+        for (int k = 0; k < 8; k++) {
+            double sine = Math.sin(Math.PI * k / 16);
+            int want = k == 4 ? 320 : (int) (4 * sine * sine * 10 * 16);
+            due(x.fence(k, 16), want);
+        }
+        begin(14);
+        due(x.held(7, 9999, 1), 7);
+        due(x.held(0, 9999, 1), 7);
+        begin(16);
+        due(x.gap(1, 0), 3);                  // FENCES 0, 1, 5, 12, 20, 27, 34, 38
+        due(x.gap(1, 1), 8);
+        begin(20);
+        due(x.change(7, 16), NOT);
+        begin(36);
+        due(x.film(0, 2, 16), 8);
+        due(x.get(0, 4), 320);
+        due(x.judge(0, 16), -2);
+        begin(42);
+        due(x.image(), 8);
+        due(x.alike(), 1);
+        x.set(2, 7, 1);
+        due(x.alike(), 0);
     }
 
     /** The widest rows that there can be, by BigInteger. */
