@@ -126,6 +126,12 @@ public final class PromiseTests {
         due(x.count(3), 1);
         due(x.count(5), 0);
         due(x.of(1, 1), BAD);
+        due(x.of(11, 1), 21);                 // nothing is left of the SHAFT that went
+        due(x.of(11, 0), 21);
+        due(x.image(), 2);
+        due(x.disc(0, 9, 50), 2);
+        due(x.cut(), 2);
+        due(x.alike(), 1);
         due(x.disc(0, 9, 9), 2);
         due(x.of(3, 1), 1);
         due(x.of(2, 2), 0);
