@@ -4,6 +4,7 @@ final class ActBounds extends Bound {
 
     static void run() {
         wraps();
+        nextAbove();
         actRefused();
         traceOfLatest();
         traceNone();
@@ -47,6 +48,24 @@ final class ActBounds extends Bound {
         due(kinds().act(1, 0, MAX), MIN);
         due(kinds().act(2, 0, MAX - 1), MIN);     // its own opposite
         due(like(8, 99, 9).act(7, 2, MAX), (MIN + 6) * 2 - 99);
+    }
+
+    private static void nextAbove() {
+        sentence("spins(..) and so on: the body of its own KIND, or of the next KIND above that has one; super: from the KIND above "
+            + "the body's on; what stands in a body is done from the left on.", 38, 39);
+        int[][][] bodies = {
+            {{10}, {11, 10}, {12, 11, 10}},
+            {{10}, {20, 11, 10}, {12, 20, 11, 10}},
+            {{30, 10}, {11, 30, 10}, {12, 11, 30, 10}},
+            {{41, 10}, {20, 11, 41, 10}, {40, 12, 20, 11, 41, 10}},
+            {{30, 10}, {50, 11, 30, 10, 30, 10}, {12, 50, 11, 30, 10, 30, 10}}};
+        for (int kind = 0; kind <= 4; kind++) {
+            for (int act = 0; act <= 2; act++) {
+                WhirlShafts x = kinds();
+                x.act(kind, act, 7);
+                traced(x, bodies[kind][act]);
+            }
+        }
     }
 
     private static void actRefused() {

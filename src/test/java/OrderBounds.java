@@ -5,6 +5,7 @@ final class OrderBounds extends Bound {
     static void run() {
         eightOrders();
         orderRefused();
+        orderMore();
         lookedAtAsDone();
         triedPasses();
         triedRefused();
@@ -13,6 +14,7 @@ final class OrderBounds extends Bound {
         dropsAll();
         changesOf();
         twelveAtMost();
+        eldestOfUnlikeOnes();
         doneAgain();
         soAlready();
         leaveNone();
@@ -60,6 +62,17 @@ final class OrderBounds extends Bound {
         due(seven.order(MASS, 1, 78), FULL);
         due(seven.does(), 8);
         due(seven.of(MASS, 1), 77);
+    }
+
+    private static void orderMore() {
+        sentence("An ORDER more: how many wait.", 24);
+        WhirlShafts x = bare();               // with no DISCS, too
+        for (int i = 1; i <= 8; i++) due(x.order(MASS, i - 1, 10 + i), i);
+        due(x.order(MASS, 8, 19), FULL);
+        due(x.count(4), 8);
+        for (int i = 0; i < 8; i++) x.disc(DISC, 5, 9);
+        due(x.does(), 8);
+        for (int i = 0; i < 8; i++) due(x.of(MASS, i), 11 + i);
     }
 
     private static void lookedAtAsDone() {
@@ -238,6 +251,26 @@ final class OrderBounds extends Bound {
         y.set(STIFF, 4, 100);
         for (int left = 11; left >= 0; left--) due(y.undo(), left);
         due(y.of(BEARING, 0), 0);
+    }
+
+    private static void eldestOfUnlikeOnes() {
+        sentence("(then the eldest is none any more)", 28, 29);
+        WhirlShafts x = like(8, 5, 9);        // MASS 0, BEARING 0, MASS 1, BEARING 1 .. MASS 7: 15 CHANGES
+        for (int i = 0; i < 15; i++) due(x.set(i % 2 == 0 ? MASS : BEARING, i / 2, 20 + i), i % 2 == 0 ? 5 : 0);
+        for (int i = 14; i >= 3; i--) {
+            due(x.undo(), i - 3);
+            due(x.of(i % 2 == 0 ? MASS : BEARING, i / 2), i % 2 == 0 ? 5 : 0);
+        }
+        due(x.undo(), STATE);
+        for (int i = 0; i < 15; i++) {        // the first three stay as they are
+            due(x.of(i % 2 == 0 ? MASS : BEARING, i / 2), i < 3 ? 20 + i : i % 2 == 0 ? 5 : 0);
+        }
+        for (int i = 3; i < 15; i++) {
+            due(x.redo(), 14 - i);
+            due(x.of(i % 2 == 0 ? MASS : BEARING, i / 2), 20 + i);
+        }
+        due(x.redo(), STATE);
+        for (int i = 0; i < 15; i++) due(x.of(i % 2 == 0 ? MASS : BEARING, i / 2), 20 + i);
     }
 
     private static void doneAgain() {

@@ -18,6 +18,7 @@ final class RateBounds extends Bound {
         lastRowIsZero();
         noDiscs();
         topIs();
+        topRises();
         ratesNumbered();
         fenceIs();
         signIs();
@@ -247,6 +248,11 @@ final class RateBounds extends Bound {
     }
 
     private static void lessThan() {
+        sentence("BELOW at p by q. BAD.", 7);
+        for (int p : WRONG_P) bad(Bound::rich, z -> z.below(p, 1));
+        for (int q : WRONG_Q) bad(Bound::rich, z -> z.below(5, q));
+        due(like(3, 2, 4).below(0, 16), 0);
+        due(like(3, 2, 4).below(9999, 16), 3);
         sentence("That is how many RATES (of the DISCS from a to b, all others held) are less than p by q.", 7, 14);
         WhirlShafts x = single(4, 12);        // RATE 3
         due(x.below(2, 1), 0);
@@ -285,6 +291,9 @@ final class RateBounds extends Bound {
         due(y.isRate(4, 1), 1);
         due(single(1, 0).isRate(0, 1), 1);
         due(single(1, 0).isRate(9999, 1), 0);
+        sentence("Whether a RATE there is at p by q (1, 0). BAD.", 8);
+        for (int p : WRONG_P) bad(Bound::rich, z -> z.isRate(p, 1));
+        for (int q : WRONG_Q) bad(Bound::rich, z -> z.isRate(5, q));
         // 4 less p, 8 less 2 p and so on: a row of which the lowest bits alone are 0 is not 0.
         due(like(8, 64, 64).isRate(9984, 16), 0);
         due(like(8, 64, 64).isRate(32, 16), 1);
@@ -327,6 +336,15 @@ final class RateBounds extends Bound {
         due(x.top(), 1 + 198);                // the last alone
         x.set(RATIO, 1, 6);
         due(x.top(), 1 + 198 / 36);           // REDUCED INERTIA of the last is 36; SHAFT 1 has the FACTOR of DISC 1
+    }
+
+    private static void topRises() {
+        sentence("`int top()`: TOP.", 12);
+        for (int n = 0; n <= 8; n++) due(like(n, 3, 2).top(), n == 0 ? 0 : n == 1 ? 1 : n == 2 ? 2 : 3);
+        WhirlShafts x = single(3, 2);         // 4 by 3
+        due(x.top(), 2);
+        due(x.cut(), 0);
+        due(x.top(), 0);
     }
 
     private static void ratesNumbered() {

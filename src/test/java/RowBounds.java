@@ -164,6 +164,13 @@ final class RowBounds extends Bound {
         sentence("VOID: the least long.", 35);
         due(WhirlShafts.VOID, Long.MIN_VALUE);
         due(bare().get(0, 0), Long.MIN_VALUE);
+        sentence("BAD (-1): no such one, a number out of its range. NOT (-2): there is none. FULL (-3). STATE (-5): as told.", 2, 3,
+            16, 30);
+        due(single(1, 1).gap(1, 0), -2);
+        due(single(1, 1).gap(17, 0), -1);
+        due(bare().cut(), -5);
+        due(crowded().feed('x'), -3);
+        due(crowded().disc(0, 1, 1), -3);
         due(WhirlShafts.BAD, -1);
         due(WhirlShafts.NOT, -2);
         due(WhirlShafts.FULL, -3);

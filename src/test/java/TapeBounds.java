@@ -325,15 +325,15 @@ final class TapeBounds extends Bound {
         WhirlShafts x = bare();
         due(read(x, spins.substring(0, 80)), 27);
         due(x.count(1), 6);
-        due(read(x, spins.substring(0, 79)), -179);
-        due(read(x, spins.substring(0, 78)), -178);
-        due(read(x, spins.substring(0, 77)), 26);
+        due(read(bare(), spins.substring(0, 79)), -179);
+        due(read(bare(), spins.substring(0, 78)), -178);
+        due(read(bare(), spins.substring(0, 77)), 26);
         StringBuilder cuts = new StringBuilder();
         for (int i = 0; i < 40; i++) cuts.append("x;");
-        due(read(x, cuts.toString()), -180);              // ends too early at 80
-        due(read(x, cuts.substring(0, 79)), -200);
+        due(read(bare(), cuts.toString()), -180);         // ends too early at 80
+        due(read(bare(), cuts.substring(0, 79)), -200);
         StringBuilder many = new StringBuilder("d0,5,0;");
         while (many.length() < 80) many.append("i0,5;");
-        due(read(x, many.substring(0, 76)), 1 + 14);
+        due(read(bare(), many.substring(0, 76)), 1 + 14);
     }
 }

@@ -17,6 +17,7 @@ final class TrialBounds extends Bound {
         criticalRefused();
         fitsPlaces();
         fitsMasses();
+        fitsWhats();
         fitsRefused();
         judged();
         judgeRefused();
@@ -296,6 +297,27 @@ final class TrialBounds extends Bound {
         due(x.fits(0, 1, 1, 0, 2), 31);
         due(x.of(6, 0), DISC);
         due(x.of(MASS, 0), 4);
+    }
+
+    private static void fitsWhats() {
+        sentence("FITS by the first m places of a ROW, of a DISC: MASSES: how many (what 0), the least (1; NOT), KINDS (2).", 22);
+        WhirlShafts x = single(4, 12);        // FENCES by MASS 12, 6, 4, 3, 2, 2, 1 ..; by KIND 3, 1, 6, 1, 6
+        row(x, 2);
+        due(x.fits(0, 1, 1, 0, 0), 2);
+        due(x.fits(0, 1, 1, 0, 1), 5);
+        due(x.fits(0, 1, 1, 0, 2), 0);
+        row(x, 5);                            // none has 5
+        due(x.fits(0, 1, 1, 0, 0), 0);
+        due(x.fits(0, 1, 1, 0, 1), NOT);
+        due(x.fits(0, 1, 1, 0, 2), 0);
+        due(x.fits(0, 1, 1, 0, -1), BAD);
+        due(x.fits(0, 1, 1, 0, 3), BAD);
+        WhirlShafts last = like(8, 5, 9);     // the last DISC, all places
+        last.set(MASS, 7, 6);
+        last.film(0, 1, 16);
+        last.set(MASS, 7, 5);
+        due(last.fits(0, 8, 16, 7, 1), 6);
+        due(last.fits(0, 8, 16, 8, 1), BAD);
     }
 
     private static void fit(WhirlShafts x, long told, int howMany, int least) {
