@@ -264,6 +264,11 @@ final class ActBounds extends Bound {
         due(shaft.alike(), 0);
         shaft.set(STIFF, 1, 2);
         due(shaft.alike(), 1);
+        WhirlShafts gone = pair(4, 7);        // nothing is left of a SHAFT that came and went
+        gone.image();
+        gone.disc(DISC, 9, 50);
+        gone.cut();
+        due(gone.alike(), 1);
         WhirlShafts orders = rich();
         orders.image();
         orders.drop();

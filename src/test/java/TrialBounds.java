@@ -6,6 +6,7 @@ final class TrialBounds extends Bound {
 
     static void run() {
         trimIs();
+        trimOfEach();
         trimRefused();
         tuneIs();
         tuneRefused();
@@ -55,6 +56,21 @@ final class TrialBounds extends Bound {
     private static void trims(WhirlShafts x, int p, int q, int mass, int differs) {
         due(x.trim(0, 0, p, q, 0), mass);
         due(x.trim(0, 0, p, q, 1), differs);
+    }
+
+    /** A DISC alone: FENCE by 16 is 16 times BEARING by MASS, so each MASS can be looked at here, too. */
+    private static void trimOfEach() {
+        sentence("the MASS (1 .. 99) by which FENCE of k differs least from p, of like ones the least;", 17);
+        for (int bearing = 1; bearing <= 99; bearing++) {
+            WhirlShafts x = single(50, bearing);
+            for (int mass = 1; mass <= 99; mass++) {
+                int wish = 16 * bearing / mass;
+                int least = 1;
+                while (16 * bearing / least != wish) least++;
+                due(x.trim(0, 0, wish, 16, 0), least);
+                due(x.trim(0, 0, wish, 16, 1), 0);
+            }
+        }
     }
 
     private static void trimRefused() {
