@@ -4,6 +4,7 @@ final class ActBounds extends Bound {
 
     static void run() {
         wraps();
+        bodiesAre();
         nextAbove();
         actRefused();
         traceOfLatest();
@@ -48,6 +49,23 @@ final class ActBounds extends Bound {
         due(kinds().act(1, 0, MAX), MIN);
         due(kinds().act(2, 0, MAX - 1), MIN);     // its own opposite
         due(like(8, 99, 9).act(7, 2, MAX), (MIN + 6) * 2 - 99);
+    }
+
+    private static void bodiesAre() {
+        sentence("i its number, m its MASS. BODIES: DISC: 10 spins: x + i. 11 swings: spins(x) * 2. 12 tells: swings(x) - m. "
+            + "RIM: 20 swings: super.swings(x) ^ 3. HUB: 30 spins: -super.spins(x). CROWN: 40 tells: super.tells(x + 1). "
+            + "41 spins: super.spins(x) * 3. SHELL: 50 swings: super.swings(x) + spins(2).", 38);
+        WhirlShafts x = like(3, 5, 9);
+        for (int kind = 0; kind <= 4; kind++) x.disc(kind, 21 + kind, 5);
+        int[][] answers = {{103, 206, 185}, {104, 211, 189}, {-105, -210, -233}, {318, 639, 617}, {-107, -223, -248}};
+        for (int kind = 0; kind <= 4; kind++) {
+            for (int act = 0; act <= 2; act++) due(x.act(3 + kind, act, 100), answers[kind][act]);
+        }
+        x.set(MASS, 3, 80);                   // the MASS of now
+        due(x.act(3, 2, 100), 206 - 80);
+        x.set(SPIN, 0, 9);                    // SPIN, WAY and what it WEIGHS do not matter
+        x.set(WAY, 0, AFT);
+        due(x.act(7, 2, 100), -248);
     }
 
     private static void nextAbove() {

@@ -26,8 +26,12 @@ final class LineBounds extends Bound {
         hubHalves();
         shellAtLeast();
         crownMore();
+        discWeighs();
+        inertiaOfWhatItWeighs();
         inertiaCut();
         factorOfFirst();
+        quickBehind();
+        reduced();
         holdsOneOrTwo();
         firstRefusal();
     }
@@ -461,6 +465,59 @@ final class LineBounds extends Bound {
         x.set(SPIN, 0, spin);
         x.set(WAY, 0, way);
         return x.of(8, 0);
+    }
+
+    private static void discWeighs() {
+        sentence("WEIGHS: DISC: MASS.", 6);
+        int[] masses = {1, 2, 50, 98, 99};
+        for (int mass : masses) {
+            WhirlShafts x = single(mass, 99);
+            x.set(SPIN, 0, 9);
+            x.set(WAY, 0, AFT);
+            due(x.of(7, 0), mass);            // BEARING, SPIN and WAY are no weight
+        }
+    }
+
+    private static void inertiaOfWhatItWeighs() {
+        sentence("INERTIA of a DISC, v being what it WEIGHS:", 6);
+        WhirlShafts x = bare();
+        for (int kind = 0; kind <= 4; kind++) x.disc(kind, 10, 5);
+        x.set(SPIN, 0, 5);
+        int[][] byWay = {{10, 20, 5, 23, 3}, {8, 15, 4, 18, 3}, {15, 30, 7, 34, 4}};
+        for (int way = TWIST; way <= AFT; way++) {
+            x.set(WAY, 0, way);
+            for (int kind = 0; kind <= 4; kind++) due(x.of(8, kind), byWay[way][kind]);
+        }
+    }
+
+    private static void quickBehind() {
+        sentence("the DISCS behind it turn so many times as quick;", 5, 6);
+        for (int shaft = 0; shaft < 7; shaft++) {
+            for (int ratio = 1; ratio <= 6; ratio++) {
+                WhirlShafts x = like(8, 5, 9);
+                x.set(RATIO, shaft, ratio);
+                for (int i = 0; i < 8; i++) due(x.of(10, i), i > shaft ? ratio * ratio : 1);
+            }
+        }
+    }
+
+    private static void reduced() {
+        sentence("REDUCED: INERTIA, BEARING of a DISC times its FACTOR; STIFF of SHAFT k times the FACTOR of DISC k.", 6);
+        WhirlShafts x = like(4, 5, 9);
+        for (int i = 0; i < 4; i++) x.set(BEARING, i, 7);
+        x.set(RATIO, 1, 2);
+        x.set(RATIO, 2, 3);
+        int[] factors = {1, 1, 4, 36};
+        for (int i = 0; i < 4; i++) {
+            due(x.of(8, i), 5 * factors[i]);
+            due(x.of(9, i), 7 * factors[i]);
+            due(x.of(12, i), i < 3 ? 9 * factors[i] : BAD);   // by the DISC ahead of it, not the one behind
+            due(x.of(MASS, i), 5);
+            due(x.of(BEARING, i), 7);
+        }
+        due(x.of(STIFF, 2), 9);
+        int[] holds = {7 + 9, 7 + 9 + 9, 28 + 9 + 36, 252 + 36};
+        for (int i = 0; i < 4; i++) due(x.of(11, i), holds[i]);
     }
 
     private static void inertiaCut() {

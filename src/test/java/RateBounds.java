@@ -12,6 +12,7 @@ final class RateBounds extends Bound {
         rateNumbers();
         nothingChanges();
         firstRow();
+        nextRow();
         noBounds();
         zeroHasTheSignAhead();
         lessThan();
@@ -19,6 +20,7 @@ final class RateBounds extends Bound {
         noDiscs();
         topIs();
         topRises();
+        andIsASum();
         ratesNumbered();
         fenceIs();
         signIs();
@@ -200,6 +202,28 @@ final class RateBounds extends Bound {
         due(x.held(0, 6, 1), 2);
     }
 
+    private static void nextRow() {
+        sentence("for each DISC i from a to b, one behind another: the next is (q times HOLDS of i, less p times REDUCED "
+            + "INERTIA of i) times the last one,", 7, 9, 11, 14);
+        WhirlShafts x = like(4, 5, 9);
+        for (int i = 0; i < 4; i++) x.set(BEARING, i, 7);
+        x.set(RATIO, 1, 2);
+        x.set(RATIO, 2, 3);
+        // HOLDS 16, 25, 73, 288; REDUCED INERTIAS 5, 5, 20, 180; REDUCED STIFFS 9, 9, 36; at 3 by 2.
+        int first = 2 * 16 - 3 * 5;
+        int second = (2 * 25 - 3 * 5) * first - 4 * 81;
+        int third = (2 * 73 - 3 * 20) * second - 4 * 81 * first;
+        int fourth = (2 * 288 - 3 * 180) * third - 4 * 1296 * second;
+        int[] rows = {1, first, second, third, fourth};
+        for (int i = 0; i <= 4; i++) due(x.rest(i, 3, 2), Math.floorMod(rows[i], 10007));
+        for (int i = 0; i < 4; i++) due(x.sign(i, 3, 2), 1);
+        due(x.below(3, 2), 1);                // the fourth is -764136
+        due(x.held(0, 3, 2), 1);              // 1, 35, 2686, -84744
+        due(x.held(1, 3, 2), 1);              // 1, 17; 1, 86, -2088
+        due(x.held(2, 3, 2), 0);              // 1, 17, 271; 1, 36
+        due(x.held(3, 3, 2), 0);              // 1, 17, 271, 17798
+    }
+
     private static void noBounds() {
         sentence("(No bounds: they may have 70 figures.)", 7, 8, 9, 10, 11, 13, 14);
         int[][] ways = {{TWIST, 0}, {FORE, 9}, {AFT, 9}};
@@ -345,6 +369,18 @@ final class RateBounds extends Bound {
         due(x.top(), 2);
         due(x.cut(), 0);
         due(x.top(), 0);
+    }
+
+    private static void andIsASum() {
+        sentence("Two numbers in a bracket with \"and\" are their sum.", 6, 12, 23);
+        WhirlShafts x = like(2, 5, 9);
+        x.set(BEARING, 1, 4);
+        due(x.of(11, 1), 4 + 9);
+        due(x.top(), 1 + 2 * 13 / 5);
+        x.film(0, 1, 1);
+        x.row(1, 1, 1);
+        x.copy(0, 0, 1, 0, 1);
+        due(x.judge(1, 1), 100 + 1);
     }
 
     private static void ratesNumbered() {
